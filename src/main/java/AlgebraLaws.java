@@ -11,7 +11,6 @@ public final class AlgebraLaws {
     private static final int MOST_LETTER = 255;
     private static final int MOST_CLOSED = 16;
     private static final int MOST_SEEN = 6;
-    private static final int IMAGES = 2;
 
     private final Tables now = new Tables();
     private final Tables trial = new Tables();
@@ -24,7 +23,7 @@ public final class AlgebraLaws {
     private final int[] seen = new int[MOST_SEEN];
     private int seenSoFar;
     private final Tables[] images = {new Tables(), new Tables()};
-    private final boolean[] isKept = new boolean[IMAGES];
+    private int keptImages;
 
     public AlgebraLaws() {
         now.startOver(Tables.FIRST_SIZE);
@@ -59,7 +58,7 @@ public final class AlgebraLaws {
         letters = 0;
         history.loseAll();
         seenSoFar = 0;
-        Arrays.fill(isKept, false);
+        keptImages = 0;
         return reader.items;
     }
 
@@ -167,7 +166,7 @@ public final class AlgebraLaws {
         if (!terms.makeFree(now, rank)) {
             return FULL;
         }
-        return what == 0 ? terms.made : terms.rounds;
+        return what == 0 ? terms.howMany : terms.rounds;
     }
 
     public int term(int what) {
@@ -234,19 +233,19 @@ public final class AlgebraLaws {
     // ---- images
 
     public int keep(int image) {
-        if (image < 0 || image >= IMAGES) {
+        if (image < 0 || image >= images.length) {
             return BAD;
         }
         images[image].copyFrom(now);
-        isKept[image] = true;
+        keptImages |= 1 << image;
         return now.size;
     }
 
     public int back(int image) {
-        if (image < 0 || image >= IMAGES) {
+        if (image < 0 || image >= images.length) {
             return BAD;
         }
-        if (!isKept[image]) {
+        if ((keptImages >> image & 1) == 0) {
             return STATE;
         }
         now.copyFrom(images[image]);
@@ -813,7 +812,7 @@ public final class AlgebraLaws {
         /** No row is as wide as this. */
         private static final long NO_GOAL = -1L;
 
-        int made;
+        int howMany;
         int rounds;
         boolean isFound;
         private final long[] rows = new long[MOST];
@@ -866,7 +865,7 @@ public final class AlgebraLaws {
         }
 
         private void startOver() {
-            made = 0;
+            howMany = 0;
             rounds = 0;
             isFound = false;
             Arrays.fill(slots, 0);
@@ -902,7 +901,7 @@ public final class AlgebraLaws {
             int before = 0;
             // Each ROUND but the last adds a row, so there are fewer than there may be rows.
             for (int round = 0; round <= MOST; round++) {
-                int known = made;
+                int known = howMany;
                 isFound = slots[slotOf(goal)] != 0;
                 if (isFound || known == before) {
                     return true;
@@ -910,7 +909,7 @@ public final class AlgebraLaws {
                 if (!makeRound(t, before)) {
                     return false;
                 }
-                rounds += made > known ? 1 : 0;
+                rounds += howMany > known ? 1 : 0;
                 before = known;
             }
             return true;
@@ -918,7 +917,7 @@ public final class AlgebraLaws {
 
         /** Puts the rows together, but for those with one another that stood before the last ROUND. */
         private boolean makeRound(Tables t, int before) {
-            int known = made;
+            int known = howMany;
             for (int a = 0; a < known; a++) {
                 layBehind(t, rows[a]);
                 if (a >= before && !add(ofOne(t, rows[a]))) {
@@ -987,12 +986,12 @@ public final class AlgebraLaws {
             if (slots[slot] != 0) {
                 return true;
             }
-            if (made >= MOST) {
+            if (howMany >= MOST) {
                 return false;
             }
-            rows[made] = row;
-            made++;
-            slots[slot] = made;
+            rows[howMany] = row;
+            howMany++;
+            slots[slot] = howMany;
             return true;
         }
 
