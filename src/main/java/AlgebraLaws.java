@@ -867,7 +867,6 @@ public final class AlgebraLaws {
         private void startOver() {
             howMany = 0;
             rounds = 0;
-            isFound = false;
             Arrays.fill(slots, 0);
             firstLetter = 0;
             secondLetter = 0;
@@ -946,16 +945,17 @@ public final class AlgebraLaws {
             }
         }
 
-        /** f of the row that lies behind, and this one. */
+        /** f of the row that lies behind, and this one. Written out, as it is what takes the time. */
         private long ofTwo(long right) {
-            int low = 0;
-            int high = 0;
-            for (int y = 0; y < Tables.MOST_SIZE; y++) {
-                int where = whereIs(right, y);
-                low |= where & lowBehind[y];
-                high |= where & highBehind[y];
-            }
-            return joined(low, high);
+            int low = (int) right;
+            int high = (int) (right >>> HALF);
+            int is0 = ~low & ~high;
+            int is1 = low & ~high;
+            int is2 = ~low & high;
+            int is3 = low & high;
+            return joined(
+                is0 & lowBehind[0] | is1 & lowBehind[1] | is2 & lowBehind[2] | is3 & lowBehind[3],
+                is0 & highBehind[0] | is1 & highBehind[1] | is2 & highBehind[2] | is3 & highBehind[3]);
         }
 
         private long ofOne(Tables t, long row) {

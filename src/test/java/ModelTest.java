@@ -65,6 +65,8 @@ public final class ModelTest {
                 call(random.nextBoolean() ? "clear" : "tables");
             } else if (kind < 10) {
                 call("type", random.nextInt(3) == 0 ? random.nextInt(300) - 20 : "nfg01;  ".charAt(random.nextInt(8)));
+            } else if (kind < 11) {
+                changeMuch();
             } else if (kind < 30) {
                 change();
             } else if (kind < 34) {
@@ -91,6 +93,18 @@ public final class ModelTest {
             call("undo");
         } else {
             call("sets", number(n), random.nextInt(4) == 0 ? -1 : number(n), number(n));
+        }
+    }
+
+    /** More changes than are known, and more undone than can be. */
+    private void changeMuch() {
+        int n = model.count(0);
+        for (int i = 10 + random.nextInt(10); i > 0; i--) {
+            call("sets", number(n), number(n + 1) - 1, number(n));
+        }
+        for (int i = random.nextInt(15); i > 0; i--) {
+            call("undo");
+            call("f", number(n), number(n));
         }
     }
 

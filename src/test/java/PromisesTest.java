@@ -235,6 +235,19 @@ public final class PromisesTest {
         }
         due("8: the oldest is lost", a.undo(), STATE);
         due("8: so it stands", a.f(0, 0), 1);
+        AlgebraLaws many = Checks.of("n4;");
+        for (int i = 0; i < 16; i++) {
+            many.sets(i / 4, i % 4, (i / 4 + 1) % 4);
+        }
+        many.sets(3, -1, 0);
+        for (int i = 16; i > 4; i--) {
+            due("8: seventeen changes, undone", many.undo(), i - 5);
+            due("8: the one before still stands", many.f((i - 1) / 4, (i - 1) % 4), ((i - 1) / 4 + 1) % 4);
+        }
+        due("8: g as it was", many.g(3), 3);
+        for (int i = 0; i < 16; i++) {
+            due("8: the five oldest stand", many.f(i / 4, i % 4), (i / 4 + (i < 5 ? 1 : 0)) % 4);
+        }
     }
 
     private void promise9() {
