@@ -606,7 +606,7 @@ public final class AlgebraLaws {
             int least = NONE;
             for (int c = 0; c < t.size && least == NONE; c++) {
                 t.put(place, c);
-                if (holds(t, law)) {
+                if (firstAgainst(t, law) == NONE) {
                     least = c;
                 }
             }

@@ -2,13 +2,33 @@
 final class Checks {
     private int made;
     private int wrong;
+    private String sentence = "";
+    private int madeBefore;
+    private int sentences;
+
+    /** What is checked from here on: a sentence of the document, told with every answer that is wrong. */
+    void sentence(String words) {
+        closeSentence();
+        sentence = words;
+        sentences++;
+        madeBefore = made;
+    }
+
+    /** A sentence that nothing was checked for has no test. */
+    private void closeSentence() {
+        if (sentences > 0 && made == madeBefore) {
+            wrong++;
+            System.out.println("nothing was checked for: " + sentence);
+        }
+    }
 
     void due(String what, long got, long want) {
         made++;
         if (got != want) {
             wrong++;
             if (wrong <= 40) {
-                System.out.println(what + " answered " + got + ", due is " + want);
+                System.out.println(
+                    sentence + (sentence.isEmpty() ? "" : " | ") + what + " answered " + got + ", due is " + want);
             }
         }
     }
@@ -22,7 +42,8 @@ final class Checks {
     }
 
     void end() {
-        System.out.println(made + " checks, " + wrong + " wrong");
+        closeSentence();
+        System.out.println((sentences > 0 ? sentences + " sentences, " : "") + made + " checks, " + wrong + " wrong");
         if (wrong > 0 || made == 0) {
             System.exit(1);
         }
