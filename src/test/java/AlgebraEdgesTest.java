@@ -1,3 +1,6 @@
+import java.util.List;
+import java.util.function.ToIntFunction;
+
 /**
  * The edges that part 2 of the document's terms and promises 5 to 11, 13 to 15 and 23 name, sentence by sentence: values,
  * sets, laws, partitions, maps.
@@ -42,6 +45,7 @@ public final class AlgebraEdgesTest {
         test.promise15();
         test.maps();
         test.promise23();
+        test.asTheyAreNow();
         test.checks.end();
     }
 
@@ -316,6 +320,10 @@ public final class AlgebraEdgesTest {
         due("f(z, x), z the last", right.congruence(right.principal(1, 2)), 3);
         AlgebraLaws left = Checks.of("n4;f0000000000010000;");
         due("f(x, z), z the last", left.congruence(left.principal(1, 2)), 3);
+        AlgebraLaws rightOfFirst = Checks.of("n4;f0300000000000000;");
+        due("f(z, x), z the first", rightOfFirst.congruence(rightOfFirst.principal(1, 2)), 110);
+        AlgebraLaws leftOfFirst = Checks.of("n4;f0000300000000000;");
+        due("f(x, z), z the first", leftOfFirst.congruence(leftOfFirst.principal(1, 2)), 110);
         AlgebraLaws one = Checks.of("n4;f0000000000000000;g0023;");
         due("g that goes along", one.congruence(one.principal(0, 1)), 23);
         due("g that does not", one.congruence(one.principal(1, 2)), 3);
@@ -323,6 +331,8 @@ public final class AlgebraEdgesTest {
 
     private void promise13() {
         checks.sentence("promise 13: NAME of the k-th CONGRUENCE (0 on); NONE. BAD.");
+        due("asked first of all", new AlgebraLaws().congruence(1), 1);
+        due("asked first of all, the last of four", ofSize(4).congruence(14), 123);
         for (String text : SOME) {
             AlgebraLaws a = Checks.of(text);
             int many = a.count(2);
@@ -358,6 +368,7 @@ public final class AlgebraEdgesTest {
 
     private void promise14() {
         checks.sentence("promise 14: The number of PRINCIPAL of x, y. BAD.");
+        due("asked first of all", new AlgebraLaws().principal(1, 1), 1);
         for (int n = 1; n <= 4; n++) {
             AlgebraLaws a = ofSize(n);
             due("the last element", a.principal(n - 1, n - 1), a.count(2) - 1);
@@ -412,6 +423,7 @@ public final class AlgebraEdgesTest {
 
     private void promise15() {
         checks.sentence("promise 15: JOIN (what = 0), MEET (1), PERMUTE (2), finer or the same (3). BAD.");
+        due("asked first of all", new AlgebraLaws().pair(0, 1, 1), 1);
         for (String text : SOME) {
             AlgebraLaws a = Checks.of(text);
             int many = a.count(2);
@@ -431,9 +443,10 @@ public final class AlgebraEdgesTest {
 
     private void maps() {
         checks.sentence("part 2: MAPS: of all ELEMENTS to ELEMENTS that go along. ONTO: those by which each ELEMENT is met");
-        String[] texts = {"n1;", "", "n3;", "n4;", "f1110;", CYCLE, "n4;f0000000000000000;", "n4;f0000011101220123;"};
-        int[] all = {1, 4, 27, 256, 1, 4, 64, 35};
-        int[] onto = {1, 2, 6, 24, 1, 4, 6, 1};
+        String[] texts = {"n1;", "", "n3;", "n4;", "f1110;", CYCLE, "n4;f0000000000000000;", "n4;f0000011101220123;",
+            "n3;g112;", "n3;f000200000;"};
+        int[] all = {1, 4, 27, 256, 1, 4, 64, 35, 6, 3};
+        int[] onto = {1, 2, 6, 24, 1, 4, 6, 1, 1, 1};
         for (int i = 0; i < texts.length; i++) {
             due("all of " + texts[i], Checks.of(texts[i]).count(4), all[i]);
             due("onto of " + texts[i], Checks.of(texts[i]).count(5), onto[i]);
@@ -463,5 +476,40 @@ public final class AlgebraEdgesTest {
         due("congruences, as many as can be", ofSize(4).count(2), 15);
         due("congruences, as few as can be", ofSize(1).count(2), 1);
         due("congruences, as few as two elements can have", Checks.of("f1110;").count(2), 2);
+    }
+
+    /** An answer must not be left over from tables that were: it is the first that is asked behind the change. */
+    private void asTheyAreNow() {
+        checks.sentence("parts 2, 3: all is asked of f, g as they are by then");
+        List<ToIntFunction<AlgebraLaws>> asked = List.of(
+            a -> a.made(1), a -> a.closed(1), a -> a.law(1), a -> a.change(1), a -> a.congruence(1),
+            a -> a.principal(0, 1), a -> a.pair(0, 1, 3), a -> a.free(2, 0), a -> a.term(0), AlgebraLaws::unseen);
+        for (int i = 0; i < asked.size() + 6; i++) {
+            int what = i - asked.size();
+            ToIntFunction<AlgebraLaws> ask = what < 0 ? asked.get(i) : a -> a.count(what);
+            for (String before : SOME) {
+                for (String then : SOME) {
+                    AlgebraLaws a = Checks.of(before);
+                    ask.applyAsInt(a);
+                    Checks.tells(a, then);
+                    int due = ask.applyAsInt(Checks.of(then));
+                    due("asked " + i + " of '" + then + "' behind '" + before + "'", ask.applyAsInt(a), due);
+                    a.keep(0);
+                    a.sets(0, 0, 1);
+                    a.sets(0, -1, 1);
+                    AlgebraLaws other = Checks.of(then);
+                    other.sets(0, 0, 1);
+                    other.sets(0, -1, 1);
+                    int changed = ask.applyAsInt(other);
+                    due("asked " + i + " of '" + then + "', changed", ask.applyAsInt(a), changed);
+                    a.back(0);
+                    due("asked " + i + " of '" + then + "', back", ask.applyAsInt(a), due);
+                    a.sets(0, 0, 1);
+                    ask.applyAsInt(a);
+                    a.undo();
+                    due("asked " + i + " of '" + then + "', undone", ask.applyAsInt(a), due);
+                }
+            }
+        }
     }
 }

@@ -140,6 +140,8 @@ public final class SearchEdgesTest {
         freeDue("n4;f1003111120333333;g0123;", 2, FULL, FULL);
         freeDue("n4;f0000000000030010;g2130;", 1, 199, 13);
         freeDue("n4;f0000001300010200;g1330;", 1, FULL, FULL);
+        freeDue("n3;f000200000;g011;", 2, FULL, FULL);
+        freeDue("n4;f0000103000000000;g2031;", 1, FULL, FULL);
         freeDue(FAR_TOO_MANY, 1, 27, 6);
         freeDue(FAR_TOO_MANY, 2, FULL, FULL);
     }
@@ -220,6 +222,8 @@ public final class SearchEdgesTest {
         due("201 rows in all, majority", Checks.of("n3;f002112112;g010;").term(1), FULL);
         due("201 rows in all, majority, the model", modelOf("n3;f002112112;g010;").term(1), FULL);
         due("202 rows in all, majority", Checks.of("n3;f010212012;g000;").term(1), FULL);
+        due("the 201st is g of a row", Checks.of("n3;f000002000;g100;").term(0), FULL);
+        due("the 201st is g of a row, majority", Checks.of("n3;f001111222;g100;").term(1), FULL);
         due("far too many", Checks.of(FAR_TOO_MANY).term(0), FULL);
         due("far too many, majority", Checks.of(FAR_TOO_MANY).term(1), FULL);
     }
