@@ -222,7 +222,7 @@ public final class AlgebraLaws {
     }
 
     private boolean allSeenIs(int howMany) {
-        for (int i = 0; i < seenSoFar; i++) {
+        for (int i = 0; i < seenSoFar && i < seen.length; i++) {
             if (seen[i] != howMany) {
                 return false;
             }
@@ -465,7 +465,7 @@ public final class AlgebraLaws {
         }
 
         void takeBackIn(Tables tables) {
-            if (known > 0) {
+            if (known > 0 && known <= MOST) {
                 known--;
                 tables.put(places[known], values[known]);
             }
@@ -916,7 +916,7 @@ public final class AlgebraLaws {
 
         /** Puts the rows together, but for those with one another that stood before the last ROUND. */
         private boolean makeRound(Tables t, int before) {
-            int known = howMany;
+            int known = Math.min(howMany, MOST);
             for (int a = 0; a < known; a++) {
                 layBehind(t, rows[a]);
                 if (a >= before && !add(ofOne(t, rows[a]))) {
@@ -1001,7 +1001,7 @@ public final class AlgebraLaws {
             for (int step = 0; step < SLOTS; step++) {
                 int slot = start + step & SLOTS - 1;
                 int number = slots[slot] - 1;
-                if (number < 0 || rows[number] == row) {
+                if (number < 0 || number >= MOST || rows[number] == row) {
                     return slot;
                 }
             }
